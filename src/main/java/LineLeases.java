@@ -969,7 +969,7 @@ public final class LineLeases {
         void split(byte[] text, int length) {
             count = 0;
             int at = 0;
-            while (at < length && at < text.length) {
+            for (int i = 0; i < MOST_BYTES && at < length && at < text.length; i++) {
                 int end = at + 1;
                 if (text[at] >= 'a' && text[at] <= 'z') {
                     end = endOfRun(text, length, at, 'a', 'z');
