@@ -1,4 +1,7 @@
+import java.io.IOException;
 import java.nio.charset.StandardCharsets;
+import java.nio.file.Files;
+import java.nio.file.Path;
 
 /** Counts the answers of one test class that are not the ones that are due. */
 final class Due {
@@ -7,7 +10,12 @@ final class Due {
         long answer();
     }
 
+    private static final Path DOCUMENT = Path.of("../shared/DOC.md");
+
     private final String test;
+    // The words of the document, each run of white space as one space; null until a sentence is looked for.
+    private String document;
+    private String sentence = "";
     private int checks;
     private int wrong;
 
@@ -15,19 +23,40 @@ final class Due {
         this.test = test;
     }
 
+    /** Names the sentence that the checks from here on are for; the document must have it, word by word. */
+    void sentence(String words) {
+        sentence = "";
+        holds("the document says: " + words, document().contains(words));
+        sentence = " [" + words + "]";
+    }
+
+    private String document() {
+        if (document == null) {
+            try {
+                document = Files.readString(DOCUMENT).replaceAll("\\s+", " ");
+            } catch (IOException e) {
+                document = "";
+            }
+        }
+        return document;
+    }
+
+    private void fail(String what) {
+        wrong++;
+        System.out.println(test + ": " + what + sentence);
+    }
+
     void same(String what, long want, long got) {
         checks++;
         if (got != want) {
-            wrong++;
-            System.out.println(test + ": " + what + " answered " + got + ", due is " + want);
+            fail(what + " answered " + got + ", due is " + want);
         }
     }
 
     void holds(String what, boolean good) {
         checks++;
         if (!good) {
-            wrong++;
-            System.out.println(test + ": not so: " + what);
+            fail("not so: " + what);
         }
     }
 
@@ -43,8 +72,21 @@ final class Due {
             }
             got = "threw " + e.getClass().getName();
         }
-        wrong++;
-        System.out.println(test + ": " + what + " " + got + ", due is a throw of " + want.getName());
+        fail(what + " " + got + ", due is a throw of " + want.getName());
+    }
+
+    /** This setup text has no error, and tells no request. */
+    void accepts(String text) {
+        LineLeases x = new LineLeases();
+        same(text, 0, load(x, text));
+        same(text + " offset", -1, x.errorOffset());
+    }
+
+    /** The setup text has this error at the first byte behind good. */
+    void refusesAfter(String good, int code, String bad) {
+        LineLeases x = new LineLeases();
+        same(good + bad, code, load(x, good + bad));
+        same(good + bad + " offset", good.length(), x.errorOffset());
     }
 
     void end() {
@@ -76,6 +118,17 @@ final class Due {
     static int load(LineLeases x, String text) {
         append(x, text);
         return x.load(text.length());
+    }
+
+    /**
+     * The fine that this expression makes for a request of line 1 that has waited 2 ticks, 20 of its work being left,
+     * while its holder holds 3 open requests.
+     */
+    static int fineOf(String expression) {
+        LineLeases x = loaded("lines;handler 9999 5;line 0 9 0 0;line 0 9 0 0;raise 0 0 90;raise 1 0 20;raise 0 1 30;"
+                + "patience 2;fine " + expression + ";");
+        x.pass(3);
+        return x.line(1, 2);
     }
 
     /** A new object with this setup text, which must have no error. */

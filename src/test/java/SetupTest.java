@@ -139,121 +139,104 @@ final class SetupTest {
         due.same("line of a request", 1, x.request(0, 0));
         due.same("time of a request", 999, x.request(0, 1));
         due.same("work of a request", 99, x.request(0, 2));
-        accepts("lines;patience 1;window 1;storm 0;period 1;wage 0;fine 0;");
-        accepts("lines;handler 1 1;handler 1 1;handler 1 1;line 0 1 0 2 0 1;");
-        accepts("lines;fine((((1)))+(2))*(3);");
-        accepts("lines;" + "handler 1 1;".repeat(6) + "line 0 1 0;".repeat(8));
+        due.accepts("lines;patience 1;window 1;storm 0;period 1;wage 0;fine 0;");
+        due.accepts("lines;handler 1 1;handler 1 1;handler 1 1;line 0 1 0 2 0 1;");
+        due.accepts("lines;fine((((1)))+(2))*(3);");
+        due.accepts("lines;" + "handler 1 1;".repeat(6) + "line 0 1 0;".repeat(8));
         due.same("60 requests", 60, Due.load(new LineLeases(), "lines;line 0 1 0;" + "raise0 0 1;".repeat(60)));
     }
 
-    private static void accepts(String text) {
-        LineLeases x = new LineLeases();
-        due.same(text, 0, Due.load(x, text));
-        due.same(text + " offset", -1, x.errorOffset());
-    }
-
-    private static void refuses(int code, int offset, String text) {
-        LineLeases x = new LineLeases();
-        due.same(text, code, Due.load(x, text));
-        due.same(text + " offset", offset, x.errorOffset());
-    }
-
-    /** The error is at the byte behind good. */
-    private static void refusesAfter(String good, int code, String bad) {
-        refuses(code, good.length(), good + bad);
-    }
-
     private static void promise3Errors() {
-        refusesAfter("", LineLeases.SYNTAX_ERROR, "handler 1 1;");
-        refusesAfter("", LineLeases.SYNTAX_ERROR, "Lines;");
-        refusesAfter("", LineLeases.SYNTAX_ERROR, "line;");
-        refusesAfter("", LineLeases.SYNTAX_ERROR, "linesx;");
-        refusesAfter("lines", LineLeases.SYNTAX_ERROR, "");
-        refusesAfter("lines   ", LineLeases.SYNTAX_ERROR, "");
-        refusesAfter("lines", LineLeases.SYNTAX_ERROR, "5;");
-        refusesAfter("lines;", LineLeases.SYNTAX_ERROR, ";");
-        refusesAfter("lines;", LineLeases.SYNTAX_ERROR, "lines;");
-        refusesAfter("lines;", LineLeases.SYNTAX_ERROR, "left;");
-        refusesAfter("lines;", LineLeases.SYNTAX_ERROR, "linehandler 1 1;");
-        refusesAfter("lines;handler", LineLeases.SYNTAX_ERROR, "\t1 1;");
-        refusesAfter("lines;handler 1", LineLeases.SYNTAX_ERROR, ";");
-        refusesAfter("lines;handler 1 ", LineLeases.SYNTAX_ERROR, "a;");
-        refusesAfter("lines;handler 1 1 ", LineLeases.SYNTAX_ERROR, "1;");
-        refusesAfter("lines;handler 1 1", LineLeases.SYNTAX_ERROR, "");
-        refusesAfter("lines;handler ", LineLeases.SYNTAX_ERROR, "-1 1;");
-        refusesAfter("lines;line 1 1", LineLeases.SYNTAX_ERROR, ";");
-        refusesAfter("lines;line 1 1 1 ", LineLeases.SYNTAX_ERROR, "left;");
-        refusesAfter("lines;line 1 1 1;raise 0 1", LineLeases.SYNTAX_ERROR, ";");
-        refusesAfter("lines;fine ", LineLeases.SYNTAX_ERROR, ";");
-        refusesAfter("lines;fine 1", LineLeases.SYNTAX_ERROR, "left;");
-        refusesAfter("lines;fine 1 ", LineLeases.SYNTAX_ERROR, "2;");
-        refusesAfter("lines;fine ", LineLeases.SYNTAX_ERROR, "-1;");
-        refusesAfter("lines;fine ", LineLeases.SYNTAX_ERROR, "lines;");
-        refusesAfter("lines;fine ", LineLeases.SYNTAX_ERROR, "handler;");
-        refusesAfter("lines;fine 1+", LineLeases.SYNTAX_ERROR, ";");
-        refusesAfter("lines;fine 1*", LineLeases.SYNTAX_ERROR, "*2;");
-        refusesAfter("lines;fine (1", LineLeases.SYNTAX_ERROR, ";");
-        refusesAfter("lines;fine 1", LineLeases.SYNTAX_ERROR, ");");
-        refusesAfter("lines;fine (", LineLeases.SYNTAX_ERROR, ");");
-        refusesAfter("lines;fine 1", LineLeases.SYNTAX_ERROR, "(2);");
-        refusesAfter("lines;fine held ", LineLeases.SYNTAX_ERROR, "\u00e9;");
-        refusesAfter("lines;fine held", LineLeases.SYNTAX_ERROR, "Left;");
+        due.refusesAfter("", LineLeases.SYNTAX_ERROR, "handler 1 1;");
+        due.refusesAfter("", LineLeases.SYNTAX_ERROR, "Lines;");
+        due.refusesAfter("", LineLeases.SYNTAX_ERROR, "line;");
+        due.refusesAfter("", LineLeases.SYNTAX_ERROR, "linesx;");
+        due.refusesAfter("lines", LineLeases.SYNTAX_ERROR, "");
+        due.refusesAfter("lines   ", LineLeases.SYNTAX_ERROR, "");
+        due.refusesAfter("lines", LineLeases.SYNTAX_ERROR, "5;");
+        due.refusesAfter("lines;", LineLeases.SYNTAX_ERROR, ";");
+        due.refusesAfter("lines;", LineLeases.SYNTAX_ERROR, "lines;");
+        due.refusesAfter("lines;", LineLeases.SYNTAX_ERROR, "left;");
+        due.refusesAfter("lines;", LineLeases.SYNTAX_ERROR, "linehandler 1 1;");
+        due.refusesAfter("lines;handler", LineLeases.SYNTAX_ERROR, "\t1 1;");
+        due.refusesAfter("lines;handler 1", LineLeases.SYNTAX_ERROR, ";");
+        due.refusesAfter("lines;handler 1 ", LineLeases.SYNTAX_ERROR, "a;");
+        due.refusesAfter("lines;handler 1 1 ", LineLeases.SYNTAX_ERROR, "1;");
+        due.refusesAfter("lines;handler 1 1", LineLeases.SYNTAX_ERROR, "");
+        due.refusesAfter("lines;handler ", LineLeases.SYNTAX_ERROR, "-1 1;");
+        due.refusesAfter("lines;line 1 1", LineLeases.SYNTAX_ERROR, ";");
+        due.refusesAfter("lines;line 1 1 1 ", LineLeases.SYNTAX_ERROR, "left;");
+        due.refusesAfter("lines;line 1 1 1;raise 0 1", LineLeases.SYNTAX_ERROR, ";");
+        due.refusesAfter("lines;fine ", LineLeases.SYNTAX_ERROR, ";");
+        due.refusesAfter("lines;fine 1", LineLeases.SYNTAX_ERROR, "left;");
+        due.refusesAfter("lines;fine 1 ", LineLeases.SYNTAX_ERROR, "2;");
+        due.refusesAfter("lines;fine ", LineLeases.SYNTAX_ERROR, "-1;");
+        due.refusesAfter("lines;fine ", LineLeases.SYNTAX_ERROR, "lines;");
+        due.refusesAfter("lines;fine ", LineLeases.SYNTAX_ERROR, "handler;");
+        due.refusesAfter("lines;fine 1+", LineLeases.SYNTAX_ERROR, ";");
+        due.refusesAfter("lines;fine 1*", LineLeases.SYNTAX_ERROR, "*2;");
+        due.refusesAfter("lines;fine (1", LineLeases.SYNTAX_ERROR, ";");
+        due.refusesAfter("lines;fine 1", LineLeases.SYNTAX_ERROR, ");");
+        due.refusesAfter("lines;fine (", LineLeases.SYNTAX_ERROR, ");");
+        due.refusesAfter("lines;fine 1", LineLeases.SYNTAX_ERROR, "(2);");
+        due.refusesAfter("lines;fine held ", LineLeases.SYNTAX_ERROR, "\u00e9;");
+        due.refusesAfter("lines;fine held", LineLeases.SYNTAX_ERROR, "Left;");
         for (String word : new String[] {"patience 1", "window 1", "storm 1", "period 1", "wage 1", "fine 1"}) {
-            refusesAfter("lines;" + word + "; ", LineLeases.SYNTAX_ERROR, word + ";");
-            refusesAfter("lines;" + word + ";handler 1 1; ", LineLeases.SYNTAX_ERROR, word.split(" ")[0] + " x");
+            due.refusesAfter("lines;" + word + "; ", LineLeases.SYNTAX_ERROR, word + ";");
+            due.refusesAfter("lines;" + word + ";handler 1 1; ", LineLeases.SYNTAX_ERROR, word.split(" ")[0] + " x");
         }
-        refusesAfter("lines;handler ", LineLeases.OUT_OF_RANGE, "10000 1;");
-        refusesAfter("lines;handler ", LineLeases.OUT_OF_RANGE, "00018446744073709551617 1;");
-        refusesAfter("lines;handler ", LineLeases.OUT_OF_RANGE, "4294967296 1;");
-        refusesAfter("lines;handler 1 ", LineLeases.OUT_OF_RANGE, "0;");
-        refusesAfter("lines;handler 1 ", LineLeases.OUT_OF_RANGE, "21;");
-        refusesAfter("lines;line ", LineLeases.OUT_OF_RANGE, "100 1 1;");
-        refusesAfter("lines;line 0 ", LineLeases.OUT_OF_RANGE, "0 1;");
-        refusesAfter("lines;line 0 ", LineLeases.OUT_OF_RANGE, "21 1;");
-        refusesAfter("lines;line 0 1 ", LineLeases.OUT_OF_RANGE, "10000;");
-        refusesAfter("lines;line 0 1 0 ", LineLeases.OUT_OF_RANGE, "0;handler 1 1;");
-        refusesAfter("lines;handler 1 1;line 0 1 0 0 ", LineLeases.OUT_OF_RANGE, "1;");
-        refusesAfter("lines;raise ", LineLeases.OUT_OF_RANGE, "0 1 1;line 0 1 0;");
-        refusesAfter("lines;line 0 1 0;raise ", LineLeases.OUT_OF_RANGE, "1 1 1;");
-        refusesAfter("lines;line 0 1 0;raise 0 ", LineLeases.OUT_OF_RANGE, "1000 1;");
-        refusesAfter("lines;line 0 1 0;raise 0 0 ", LineLeases.OUT_OF_RANGE, "0;");
-        refusesAfter("lines;line 0 1 0;raise 0 0 ", LineLeases.OUT_OF_RANGE, "100;");
+        due.refusesAfter("lines;handler ", LineLeases.OUT_OF_RANGE, "10000 1;");
+        due.refusesAfter("lines;handler ", LineLeases.OUT_OF_RANGE, "00018446744073709551617 1;");
+        due.refusesAfter("lines;handler ", LineLeases.OUT_OF_RANGE, "4294967296 1;");
+        due.refusesAfter("lines;handler 1 ", LineLeases.OUT_OF_RANGE, "0;");
+        due.refusesAfter("lines;handler 1 ", LineLeases.OUT_OF_RANGE, "21;");
+        due.refusesAfter("lines;line ", LineLeases.OUT_OF_RANGE, "100 1 1;");
+        due.refusesAfter("lines;line 0 ", LineLeases.OUT_OF_RANGE, "0 1;");
+        due.refusesAfter("lines;line 0 ", LineLeases.OUT_OF_RANGE, "21 1;");
+        due.refusesAfter("lines;line 0 1 ", LineLeases.OUT_OF_RANGE, "10000;");
+        due.refusesAfter("lines;line 0 1 0 ", LineLeases.OUT_OF_RANGE, "0;handler 1 1;");
+        due.refusesAfter("lines;handler 1 1;line 0 1 0 0 ", LineLeases.OUT_OF_RANGE, "1;");
+        due.refusesAfter("lines;raise ", LineLeases.OUT_OF_RANGE, "0 1 1;line 0 1 0;");
+        due.refusesAfter("lines;line 0 1 0;raise ", LineLeases.OUT_OF_RANGE, "1 1 1;");
+        due.refusesAfter("lines;line 0 1 0;raise 0 ", LineLeases.OUT_OF_RANGE, "1000 1;");
+        due.refusesAfter("lines;line 0 1 0;raise 0 0 ", LineLeases.OUT_OF_RANGE, "0;");
+        due.refusesAfter("lines;line 0 1 0;raise 0 0 ", LineLeases.OUT_OF_RANGE, "100;");
         for (String word : new String[] {"patience ", "window ", "period "}) {
-            refusesAfter("lines;" + word, LineLeases.OUT_OF_RANGE, "0;");
-            refusesAfter("lines;" + word, LineLeases.OUT_OF_RANGE, "100;");
+            due.refusesAfter("lines;" + word, LineLeases.OUT_OF_RANGE, "0;");
+            due.refusesAfter("lines;" + word, LineLeases.OUT_OF_RANGE, "100;");
         }
-        refusesAfter("lines;storm ", LineLeases.OUT_OF_RANGE, "1000;");
-        refusesAfter("lines;wage ", LineLeases.OUT_OF_RANGE, "100;");
-        refusesAfter("lines;fine 9999+", LineLeases.OUT_OF_RANGE, "10000;");
-        refusesAfter("lines;handler 1 1;handler 1 1;line 0 1 0 1 0 ", LineLeases.REPEATED, "1;");
-        refusesAfter("lines;handler 1 1;line 0 1 0 0 ", LineLeases.REPEATED, "00;");
-        refusesAfter("lines;fine ((((1)+ 2)* (3+ ", LineLeases.SYNTAX_ERROR, "");
-        refusesAfter("lines;fine ((((", LineLeases.TOO_DEEP, "(1)))));");
-        refusesAfter("lines;fine 1*(2+((3-( ", LineLeases.TOO_DEEP, "(");
-        refusesAfter("lines;fine ((((1", LineLeases.SYNTAX_ERROR, "(1)))));");
+        due.refusesAfter("lines;storm ", LineLeases.OUT_OF_RANGE, "1000;");
+        due.refusesAfter("lines;wage ", LineLeases.OUT_OF_RANGE, "100;");
+        due.refusesAfter("lines;fine 9999+", LineLeases.OUT_OF_RANGE, "10000;");
+        due.refusesAfter("lines;handler 1 1;handler 1 1;line 0 1 0 1 0 ", LineLeases.REPEATED, "1;");
+        due.refusesAfter("lines;handler 1 1;line 0 1 0 0 ", LineLeases.REPEATED, "00;");
+        due.refusesAfter("lines;fine ((((1)+ 2)* (3+ ", LineLeases.SYNTAX_ERROR, "");
+        due.refusesAfter("lines;fine ((((", LineLeases.TOO_DEEP, "(1)))));");
+        due.refusesAfter("lines;fine 1*(2+((3-( ", LineLeases.TOO_DEEP, "(");
+        due.refusesAfter("lines;fine ((((1", LineLeases.SYNTAX_ERROR, "(1)))));");
     }
 
     private static void promise3ErrorsOfCounts() {
         String handlers = "lines;" + "handler 1 1;".repeat(6);
-        refusesAfter(handlers, LineLeases.TOO_MANY, "handler 1 1;");
-        refusesAfter(handlers + " ", LineLeases.TOO_MANY, "handler");
+        due.refusesAfter(handlers, LineLeases.TOO_MANY, "handler 1 1;");
+        due.refusesAfter(handlers + " ", LineLeases.TOO_MANY, "handler");
         String lines = "lines;" + "line 0 1 0;".repeat(8);
-        refusesAfter(lines, LineLeases.TOO_MANY, "line 0 1 0;");
-        refusesAfter(lines, LineLeases.TOO_MANY, "line x;");
+        due.refusesAfter(lines, LineLeases.TOO_MANY, "line 0 1 0;");
+        due.refusesAfter(lines, LineLeases.TOO_MANY, "line x;");
         String requests = "lines;line 0 1 0;" + "raise0 0 1;".repeat(60);
-        refusesAfter(requests, LineLeases.TOO_MANY, "raise0 0 1;");
-        refusesAfter(requests, LineLeases.TOO_MANY, "raise;");
-        refusesAfter(handlers + "line 0 1 0 5 4 3 ", LineLeases.TOO_MANY, "2;");
-        refusesAfter(handlers + "line 0 1 0 5 4 3 ", LineLeases.TOO_MANY, "2 2;");
+        due.refusesAfter(requests, LineLeases.TOO_MANY, "raise0 0 1;");
+        due.refusesAfter(requests, LineLeases.TOO_MANY, "raise;");
+        due.refusesAfter(handlers + "line 0 1 0 5 4 3 ", LineLeases.TOO_MANY, "2;");
+        due.refusesAfter(handlers + "line 0 1 0 5 4 3 ", LineLeases.TOO_MANY, "2 2;");
     }
 
     private static void promise3OrderOfErrors() {
         String handlers = "lines;" + "handler 1 1;".repeat(6);
-        refusesAfter(handlers + "line 0 1 0 5 4 3 ", LineLeases.REPEATED, "4;");
-        refusesAfter(handlers + "line 0 1 0 5 4 3 ", LineLeases.OUT_OF_RANGE, "6;");
-        refusesAfter("lines;handler ", LineLeases.OUT_OF_RANGE, "10000 1; ?");
-        refusesAfter("lines;fine ((((", LineLeases.TOO_DEEP, "(?");
-        refusesAfter("lines;fine ((((", LineLeases.SYNTAX_ERROR, ")(");
+        due.refusesAfter(handlers + "line 0 1 0 5 4 3 ", LineLeases.REPEATED, "4;");
+        due.refusesAfter(handlers + "line 0 1 0 5 4 3 ", LineLeases.OUT_OF_RANGE, "6;");
+        due.refusesAfter("lines;handler ", LineLeases.OUT_OF_RANGE, "10000 1; ?");
+        due.refusesAfter("lines;fine ((((", LineLeases.TOO_DEEP, "(?");
+        due.refusesAfter("lines;fine ((((", LineLeases.SYNTAX_ERROR, ")(");
     }
 
     private static void promise4ErrorOffset() {

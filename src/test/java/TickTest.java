@@ -125,40 +125,32 @@ final class TickTest {
         holders(y, 2, 2, 1, 1, 2, 1);
     }
 
-    private static int fine(String expression) {
-        // At time 2 request 1 (line 1) has waited 2 ticks; its holder holds 3 requests; 20 are left.
-        LineLeases x = Due.loaded("lines;handler 9999 5;line 0 9 0 0;line 0 9 0 0;raise 0 0 90;raise 1 0 20;raise 0 1 30;"
-                + "patience 2;fine " + expression + ";");
-        x.pass(3);
-        return x.line(1, 2);
-    }
-
     private static void fineExpressions() {
-        due.same("left", 20, fine("left"));
-        due.same("line", 1, fine("line"));
-        due.same("held", 3, fine("held"));
-        due.same("waited", 2, fine("waited"));
-        due.same("a number", 17, fine("17"));
-        due.same("the greatest fine", 9999, fine("9999+1"));
-        due.same("the least fine", 0, fine("1-2"));
-        due.same("sums go from the left to the right", 5, fine("10-3-2"));
-        due.same("terms go from the left to the right", 24, fine("100/4 * 2 / 2 - 1"));
-        due.same("terms before sums", 14, fine("2+3*4"));
-        due.same("parentheses before terms", 20, fine("(2+3)*4"));
-        due.same("parentheses on the right", 9, fine("10-(3-2)"));
-        due.same("division truncates", 3, fine("11/3"));
-        due.same("division truncates toward zero", 97, fine("100 + (0-11)/3"));
-        due.same("division by a negative number truncates toward zero", 97, fine("100 + 11/(0-3)"));
-        due.same("division by 0", 7, fine("7+5/0"));
-        due.same("division by 0 in parentheses", 7, fine("7+5/(line-1)*3"));
-        due.same("the upper limit of a product", 1000, fine("9999*9999/1000"));
-        due.same("the upper limit of a sum", 1, fine("9999*9999+1-9999*9999 + 1"));
-        due.same("the lower limit of a product", 5, fine("(0-9999)*9999+9999*100+105"));
-        due.same("the lower limit of a difference", 0, fine("0-9999*9999-5+9999*9999"));
-        due.same("no overflow of an int", 1000, fine("9999*9999*9999*9999/1000"));
-        due.same("no limit of numbers within", 9999, fine("9999*100/100"));
-        due.same("all of them", 20 * 3 + 2 - 1, fine("left*held+waited-line"));
-        due.same("the deepest that waits", 6, fine("1+1*(1+1*(1+1*(1+1*(1+1*1))))"));
+        due.same("left", 20, Due.fineOf("left"));
+        due.same("line", 1, Due.fineOf("line"));
+        due.same("held", 3, Due.fineOf("held"));
+        due.same("waited", 2, Due.fineOf("waited"));
+        due.same("a number", 17, Due.fineOf("17"));
+        due.same("the greatest fine", 9999, Due.fineOf("9999+1"));
+        due.same("the least fine", 0, Due.fineOf("1-2"));
+        due.same("sums go from the left to the right", 5, Due.fineOf("10-3-2"));
+        due.same("terms go from the left to the right", 24, Due.fineOf("100/4 * 2 / 2 - 1"));
+        due.same("terms before sums", 14, Due.fineOf("2+3*4"));
+        due.same("parentheses before terms", 20, Due.fineOf("(2+3)*4"));
+        due.same("parentheses on the right", 9, Due.fineOf("10-(3-2)"));
+        due.same("division truncates", 3, Due.fineOf("11/3"));
+        due.same("division truncates toward zero", 97, Due.fineOf("100 + (0-11)/3"));
+        due.same("division by a negative number truncates toward zero", 97, Due.fineOf("100 + 11/(0-3)"));
+        due.same("division by 0", 7, Due.fineOf("7+5/0"));
+        due.same("division by 0 in parentheses", 7, Due.fineOf("7+5/(line-1)*3"));
+        due.same("the upper limit of a product", 1000, Due.fineOf("9999*9999/1000"));
+        due.same("the upper limit of a sum", 1, Due.fineOf("9999*9999+1-9999*9999 + 1"));
+        due.same("the lower limit of a product", 5, Due.fineOf("(0-9999)*9999+9999*100+105"));
+        due.same("the lower limit of a difference", 0, Due.fineOf("0-9999*9999-5+9999*9999"));
+        due.same("no overflow of an int", 1000, Due.fineOf("9999*9999*9999*9999/1000"));
+        due.same("no limit of numbers within", 9999, Due.fineOf("9999*100/100"));
+        due.same("all of them", 20 * 3 + 2 - 1, Due.fineOf("left*held+waited-line"));
+        due.same("the deepest that waits", 6, Due.fineOf("1+1*(1+1*(1+1*(1+1*(1+1*1))))"));
         LineLeases x = Due.loaded("lines;handler 9999 1;line 0 9 0 0;raise 0 0 90;raise 0 0 7;patience 1;fine 9999+1;");
         x.fund(0, 9999);
         due.same("the greatest fine of a rich one", 9999, x.finesIn(2));
@@ -173,7 +165,7 @@ final class TickTest {
         y.lease(0, 0);
         y.raise(0, 50);
         due.same("request 2 waits from 25 to 28, request 1 has the work", 32, y.finesIn(4));
-        due.same("4 parentheses", 78, fine("1+2*(3+4*(5-6*(7-8*(2-1))*line-line*6)/1-2*(left-1*20)) + 31"));
+        due.same("4 parentheses", 78, Due.fineOf("1+2*(3+4*(5-6*(7-8*(2-1))*line-line*6)/1-2*(left-1*20)) + 31"));
     }
 
     private static void rents() {
