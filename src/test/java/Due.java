@@ -131,6 +131,23 @@ final class Due {
         return x.line(1, 2);
     }
 
+    /** The holders of the first requests, as request(int, 4) tells them. */
+    void holders(String when, LineLeases x, int... want) {
+        for (int i = 0; i < want.length; i++) {
+            same(when + ": holder of request " + i, want[i], x.request(i, 4));
+        }
+    }
+
+    /** An object with this setup text at 9999, the latest time that there is. */
+    static LineLeases atTheLatestTime(String text) {
+        LineLeases x = loaded(text);
+        for (int i = 0; i < 49; i++) {
+            x.pass(200);
+        }
+        x.pass(199);
+        return x;
+    }
+
     /** A new object with this setup text, which must have no error. */
     static LineLeases loaded(String text) {
         LineLeases x = new LineLeases();

@@ -89,8 +89,8 @@ final class SetupEdgesTest {
             emptyAgain();
         }
 
-        private static final String BYTES = "Appends 20 bytes to the input buffer: the 4 bytes of each argument, the most "
-                + "significant byte first.";
+        private static final String BYTES = "Appends 20 bytes to the input buffer: the 4 bytes of each argument, the "
+                + "most significant byte first.";
 
         private static void mostSignificantByteFirst() {
             due.sentence(BYTES);
@@ -127,8 +127,8 @@ final class SetupEdgesTest {
         }
 
         private static void theNewLength() {
-            due.sentence("Returns the new length of the buffer; -1 if it would exceed 700 bytes, and the buffer is unchanged "
-                    + "then.");
+            due.sentence("Returns the new length of the buffer; -1 if it would exceed 700 bytes, and the buffer is "
+                    + "unchanged then.");
             LineLeases x = new LineLeases();
             for (int length = 20; length <= 700; length += 20) {
                 due.same("append", length, x.append(SPACES, SPACES, SPACES, SPACES, SPACES));
@@ -179,7 +179,8 @@ final class SetupEdgesTest {
             due.thrown("nothing is left behind an error", IllegalArgumentException.class, () -> x.load(1));
             Due.append(x, textOf(40));
             x.load(18);
-            due.thrown("nothing is left of the bytes that were not read", IllegalArgumentException.class, () -> x.load(1));
+            due.thrown("nothing is left of the bytes that were not read", IllegalArgumentException.class,
+                    () -> x.load(1));
             due.same("an append behind them", 20, x.append(SPACES, SPACES, SPACES, SPACES, SPACES));
         }
     }
@@ -188,6 +189,8 @@ final class SetupEdgesTest {
         static void test() {
             theFirstBytes();
             replacesAllData();
+            replacesWhatWasPredicted();
+            replacesWhatHadAnError();
             anErrorLeavesAllOtherData();
             anEmptyText();
             theNumberOfRequests();
@@ -196,8 +199,7 @@ final class SetupEdgesTest {
         }
 
         private static void theFirstBytes() {
-            due.sentence("Reads the first bytes of the input buffer as a setup text and replaces all data by it; the time is "
-                    + "0.");
+            due.sentence(REPLACES);
             String text = "lines;handler 1 1;handler 2 2;handler 3 3;";
             int[] lengths = {6, 18, 30, 42};
             for (int count = 0; count < lengths.length; count++) {
@@ -217,19 +219,59 @@ final class SetupEdgesTest {
             due.same("its offset", 13, x.errorOffset());
         }
 
+        private static final String REPLACES = "Reads the first bytes of the input buffer as a setup text and "
+                + "replaces all data by it; the time is 0.";
+        private static final String OLD = "lines;handler 900 9;handler 0 2;handler 9 1;line 5 2 30 2 1;line 5 9 300 0;"
+                + "raise 0 0 9;raise 0 0 9;raise 0 0 9;raise 1 0 99;raise 1 0 99;patience 1;window 99;storm 1;"
+                + "period 1;wage 9;fine 3;";
+        private static final String NEW = "lines;handler 40 3;handler 41 2;line 6 7 8 0 1;line 5 4 3 1;raise 0 2 12;"
+                + "raise 1 3 9;raise 1 3 30;raise 1 3 30;";
+
         private static void replacesAllData() {
-            due.sentence("Reads the first bytes of the input buffer as a setup text and replaces all data by it; the time is "
-                    + "0.");
-            LineLeases x = Due.loaded("lines;handler 9 1;handler 0 2;line 5 2 30 0 1;raise 0 0 9;raise 0 0 9;raise 0 0 9;"
-                    + "patience 1;window 99;storm 1;period 1;wage 9;fine 3;");
+            due.sentence(REPLACES);
+            LineLeases x = Due.loaded(OLD);
             x.pass(20);
             x.raise(0, 5);
             x.fund(0, 44);
-            due.same("requests", 1, Due.load(x, "lines;handler 40 3;line 6 7 8 0;raise 0 0 12;"));
-            LineLeases y = Due.loaded("lines;handler 40 3;line 6 7 8 0;raise 0 0 12;");
+            isAsNew(x);
+        }
+
+        private static void replacesWhatWasPredicted() {
+            due.sentence(REPLACES);
+            LineLeases x = Due.loaded(OLD);
+            x.finesIn(3);
+            isAsNew(x);
+            LineLeases y = Due.loaded(OLD);
+            y.pass(1);
+            y.endsAt(4);
+            isAsNew(y);
+            LineLeases z = Due.loaded(OLD);
+            z.bankruptIn(2);
+            isAsNew(z);
+            LineLeases w = Due.loaded(OLD);
+            w.advise(0);
+            isAsNew(w);
+        }
+
+        private static void replacesWhatHadAnError() {
+            due.sentence(REPLACES);
+            LineLeases x = new LineLeases();
+            due.same("an error at the end", LineLeases.SYNTAX_ERROR, Due.load(x, OLD + "?"));
+            isAsNew(x);
+            LineLeases y = Due.loaded("lines;");
+            due.same("an error in the fine", LineLeases.SYNTAX_ERROR, Due.load(y, OLD.substring(0,
+                    OLD.length() - 1) + "*"));
+            isAsNew(y);
+        }
+
+        /** Loads the new text; all answers must be as in an object that never had another one. */
+        private static void isAsNew(LineLeases x) {
+            due.same("requests", 4, Due.load(x, NEW));
+            LineLeases y = Due.loaded(NEW);
             due.same("the time", 0, x.state(0));
             for (int tick = 0; tick < 30; tick++) {
                 due.same("as in a new object at " + tick, y.checksum(), x.checksum());
+                due.same("fines at " + tick, y.finesIn(tick), x.finesIn(tick));
                 x.pass(1);
                 y.pass(1);
             }
@@ -243,7 +285,8 @@ final class SetupEdgesTest {
             long before = x.checksum();
             int fines = x.finesIn(50);
             String[] errors = {"", "lines;handler 5 5;wage 5", "lines;patience 1;fine 1;handler 10000 1;",
-                    "lines;handler 1 1;line 9 9 9 0 0;", HANDLERS + "handler 1 1;", "lines;handler 7 7;fine (((((1)))));"};
+                    "lines;handler 1 1;line 9 9 9 0 0;", HANDLERS + "handler 1 1;", "lines;handler 7 7;"
+                            + "fine (((((1)))));"};
             int[] codes = {-2, -2, -3, -4, -5, -6};
             for (int i = 0; i < errors.length; i++) {
                 due.same("error of: " + errors[i], codes[i], Due.load(x, errors[i]));
@@ -274,8 +317,8 @@ final class SetupEdgesTest {
             due.refusesAfter("lines;wage ", LineLeases.OUT_OF_RANGE, "100;handler ?;");
         }
 
-        private static final String THROWN = "if length is negative or greater than the length of the buffer; the buffer is "
-                + "unchanged then";
+        private static final String THROWN = "if length is negative or greater than the length of the buffer;"
+                + " the buffer is unchanged then";
 
         private static void lengthsThatThrow() {
             due.sentence(THROWN);
@@ -305,8 +348,8 @@ final class SetupEdgesTest {
     }
 
     private static final class TheOffset {
-        private static final String OFFSET = "Returns the offset of the error found by the latest call of load that did not "
-                + "throw; -1 if it found none or if there was no such call.";
+        private static final String OFFSET = "Returns the offset of the error found by the latest call of load that "
+                + "did not throw; -1 if it found none or if there was no such call.";
 
         static void test() {
             due.sentence(OFFSET);
@@ -330,8 +373,8 @@ final class SetupEdgesTest {
     }
 
     private static final class TheTokens {
-        private static final String SPACE = "Spaces (byte 32) may precede any token and may follow the last one; a word and "
-                + "a number side by side need none between them.";
+        private static final String SPACE = "Spaces (byte 32) may precede any token and may follow the last one;"
+                + " a word and a number side by side need none between them.";
 
         static void test() {
             runsOfDigits();
@@ -359,7 +402,8 @@ final class SetupEdgesTest {
 
         private static void greatNumbers() {
             due.sentence("A number is a run of decimal digits, of any length (leading zeros do not matter)");
-            String[] great = {"10000", "65537", "100001", "2147483648", "4294967296", "4294967297", "18446744073709551617",
+            String[] great = {"10000", "65537", "100001", "2147483648", "4294967296", "4294967297",
+                    "18446744073709551617",
                     "1" + "0".repeat(670), "9".repeat(670), "0".repeat(300) + "1" + "0".repeat(300)};
             for (String number : great) {
                 due.refusesAfter("lines;handler ", LineLeases.OUT_OF_RANGE, number + " 1;");
@@ -394,8 +438,10 @@ final class SetupEdgesTest {
             due.refusesAfter("lines;wage ", LineLeases.OUT_OF_RANGE, "111;");
         }
 
-        private static final String[] TOKENS = {"lines", ";", "handler", "10", "2", ";", "line", "3", "4", "50", "0", ";",
-                "raise", "0", "6", "7", ";", "fine", "(", "left", "+", "1", ")", "*", "held", "-", "waited", "/", "2", ";"};
+        private static final String[] TOKENS = {"lines", ";", "handler", "10", "2", ";", "line", "3", "4", "50", "0",
+                ";",
+                "raise", "0", "6", "7", ";", "fine", "(", "left", "+", "1", ")", "*", "held", "-", "waited", "/", "2",
+                        ";"};
 
         private static void spacesBeforeTokens() {
             due.sentence(SPACE);
@@ -426,7 +472,8 @@ final class SetupEdgesTest {
 
         private static void wordAndNumber() {
             due.sentence(SPACE);
-            LineLeases x = Due.loaded("lines;handler12 3;line4 5 6 0;raise0 7 8;patience3;window4;storm5;period6;wage7;fine8;");
+            LineLeases x = Due.loaded("lines;handler12 3;line4 5 6 0;raise0 7 8;patience3;window4;storm5;period6;"
+                    + "wage7;fine8;");
             due.same("handler12", 12, x.handler(0, 0));
             due.same("line4", 4, x.line(0, 0));
             due.same("raise0", 7, x.request(0, 1));
@@ -456,9 +503,9 @@ final class SetupEdgesTest {
     }
 
     private static final class TheGrammar {
-        private static final String SYNTAX = "SYNTAX_ERROR: a token or byte that the grammar does not allow here, at its first "
-                + "byte; the end of the text, at its length, if the text ends too early; a second statement of a kind that "
-                + "may occur once, at its first letter.";
+        private static final String SYNTAX = "SYNTAX_ERROR: a token or byte that the grammar does not allow here, at "
+                + "its first byte; the end of the text, at its length, if the text ends too early; a second statement "
+                + "of a kind that may occur once, at its first letter.";
 
         static void test() {
             eachTokenIsNeeded();
@@ -471,20 +518,23 @@ final class SetupEdgesTest {
         }
 
         private static final String BEFORE = "lines;handler 9 1;line 0 1 0;";
-        private static final String[] STATEMENTS = {"handler 1 2", "line 1 2 3", "line 1 2 3 0", "raise 0 1 2", "patience 1",
+        private static final String[] STATEMENTS = {"handler 1 2", "line 1 2 3", "line 1 2 3 0", "raise 0 1 2",
+                "patience 1",
                 "window 1", "storm 1", "period 1", "wage 1", "fine 1", "fine line", "fine ( 1 )", "fine 1 + 2",
                 "fine 1 * 2", "fine 1 - 2", "fine 1 / 2"};
 
         private static void eachTokenIsNeeded() {
-            due.sentence("statement = \"handler\" number number | \"line\" number number number { number } | \"raise\" number "
-                    + "number number | \"patience\" number | \"window\" number | \"storm\" number | \"period\" number | "
-                    + "\"wage\" number | \"fine\" sum");
+            due.sentence("statement = \"handler\" number number | \"line\" number number number { number } | "
+                    + "\"raise\" number number number | \"patience\" number | \"window\" number | \"storm\" number | "
+                    + "\"period\" number | \"wage\" number | \"fine\" sum");
             for (String statement : STATEMENTS) {
-                due.same(statement, statement.startsWith("raise") ? 1 : 0, Due.load(new LineLeases(), BEFORE + statement + ";"));
+                due.same(statement, statement.startsWith("raise") ? 1 : 0, Due.load(new LineLeases(),
+                        BEFORE + statement + ";"));
                 String[] tokens = statement.split(" ");
                 StringBuilder good = new StringBuilder(BEFORE);
                 for (int i = 0; i < tokens.length; i++) {
-                    boolean mayEnd = statement.equals("line 1 2 3 0") && i == 4 || statement.startsWith("fine") && i % 2 == 0
+                    boolean mayEnd = statement.equals("line 1 2 3 "
+                            + "0") && i == 4 || statement.startsWith("fine") && i % 2 == 0
                             && i > 0 && !statement.contains("(");
                     if (!mayEnd) {
                         due.refusesAfter(good + " ", LineLeases.SYNTAX_ERROR, ";");
@@ -583,7 +633,8 @@ final class SetupEdgesTest {
             due.accepts("lines;");
             due.accepts("lines;handler 1 1;handler 1 1;");
             due.accepts("lines;line 0 1 0;wage 1;handler 1 1;fine 1;line 0 1 0 0;storm 1;");
-            due.same("raises between others", 2, Due.load(new LineLeases(), "lines;line 0 1 0;raise 0 1 1;wage 1;raise 0 1 1;"));
+            due.same("raises between others", 2, Due.load(new LineLeases(), "lines;line 0 1 0;raise 0 1 1;wage 1;"
+                    + "raise 0 1 1;"));
         }
 
         private static void factors() {
@@ -597,7 +648,8 @@ final class SetupEdgesTest {
                 due.refusesAfter("lines;fine " + factor, LineLeases.SYNTAX_ERROR, ");");
                 due.refusesAfter("lines;fine (" + factor, LineLeases.SYNTAX_ERROR, ";");
             }
-            for (String bad : new String[] {"", "()", "lines", "handler", "raise", "wage", "fine", "x", "-1", "+1", "*1", "/1"}) {
+            for (String bad : new String[] {"", "()", "lines", "handler", "raise", "wage", "fine", "x", "-1", "+1",
+                    "*1", "/1"}) {
                 String good = bad.equals("()") ? "(" : "";
                 due.refusesAfter("lines;fine " + good, LineLeases.SYNTAX_ERROR, bad.substring(good.length()) + ";");
             }
@@ -619,11 +671,11 @@ final class SetupEdgesTest {
     }
 
     private static final class TheRanges {
-        private static final String NUMBERS = "The numbers of handler are its purse and its speed; those of line its rent, its "
-                + "limit, its device purse, and then its tenants, handlers that were told before; those of raise a line that "
-                + "was told before, a time (0 to 999) and the work.";
-        private static final String RULES = "patience is 1 to 99 (5 without it), window 1 to 99 (10), storm 0 to 999 (10), "
-                + "period 1 to 99 (10), wage 0 to 99 (1).";
+        private static final String NUMBERS = "The numbers of handler are its purse and its speed;"
+                + " those of line its rent, its limit, its device purse, and then its tenants, handlers that were "
+                + "told before; those of raise a line that was told before, a time (0 to 999) and the work.";
+        private static final String RULES = "patience is 1 to 99 (5 without it), window 1 to 99 (10), storm 0 to 999 "
+                + "(10), period 1 to 99 (10), wage 0 to 99 (1).";
 
         static void test() {
             orderOfTheNumbers();
@@ -642,7 +694,8 @@ final class SetupEdgesTest {
 
         private static void orderOfTheNumbers() {
             due.sentence(NUMBERS);
-            LineLeases x = Due.loaded("lines;handler 11 12;handler 13 14;line 21 20 23;line 24 15 26 1 0;raise 1 31 32;");
+            LineLeases x = Due.loaded("lines;handler 11 12;handler 13 14;line 21 20 23;line 24 15 26 1 0;"
+                    + "raise 1 31 32;");
             int[] handlers = {11, 12, 13, 14};
             int[] lines = {21, 20, 23, 24, 15, 26};
             int[] request = {1, 31, 32};
@@ -710,7 +763,8 @@ final class SetupEdgesTest {
         }
 
         private static int ticksToTheFine(String rule) {
-            LineLeases x = Due.loaded("lines;handler 9 1;line 0 9 0 0;raise 0 0 99;raise 0 0 99;raise 0 0 99;fine 1;" + rule);
+            LineLeases x = Due.loaded("lines;handler 9 1;line 0 9 0 0;raise 0 0 99;raise 0 0 99;raise 0 0 99;fine 1;"
+                    + rule);
             int ticks = 0;
             while (ticks < 200 && x.finesIn(ticks) == 0) {
                 ticks++;
@@ -796,7 +850,8 @@ final class SetupEdgesTest {
             due.sentence("A number as a factor is 0 to 9999.");
             due.same("0", 0, Due.fineOf("0"));
             due.same("9999", 9999, Due.fineOf("9999"));
-            for (String good : new String[] {"lines;fine ", "lines;fine 1+", "lines;fine 1*", "lines;fine (", "lines;fine (((("}) {
+            for (String good : new String[] {"lines;fine ", "lines;fine 1+", "lines;fine 1*", "lines;fine (", "lines;"
+                    + "fine (((("}) {
                 due.refusesAfter(good, LineLeases.OUT_OF_RANGE, "10000;");
                 due.refusesAfter(good, LineLeases.OUT_OF_RANGE, "4294967296;");
             }
@@ -817,8 +872,8 @@ final class SetupEdgesTest {
 
     private static final class TheErrors {
         private static final String SMALLEST = "The first error in the text is the one with the smallest offset.";
-        private static final String SAME_OFFSET = "If several kinds of error have the same offset, the first one in this list "
-                + "counts:";
+        private static final String SAME_OFFSET = "If several kinds of error have the same offset, the first one in "
+                + "this list counts:";
 
         static void test() {
             theSmallestOffset();
@@ -836,18 +891,22 @@ final class SetupEdgesTest {
 
         private static void theSmallestOffset() {
             due.sentence(SMALLEST);
-            String[] errors = {"handler ?;", "handler 10000 1;", "line 0 1 0 0 0;", "wage 1;wage 1;", "fine (((((1)))));"};
+            String[] errors = {"handler ?;", "handler 10000 1;", "line 0 1 0 0 0;", "wage 1;wage 1;",
+                    "fine (((((1)))));"};
             int[] at = {8, 8, 13, 7, 9};
-            int[] codes = {LineLeases.SYNTAX_ERROR, LineLeases.OUT_OF_RANGE, LineLeases.REPEATED, LineLeases.SYNTAX_ERROR,
+            int[] codes = {LineLeases.SYNTAX_ERROR, LineLeases.OUT_OF_RANGE, LineLeases.REPEATED,
+                    LineLeases.SYNTAX_ERROR,
                     LineLeases.TOO_DEEP};
             String good = "lines;handler 1 1;";
             for (int i = 0; i < errors.length; i++) {
                 for (int j = 0; j < errors.length; j++) {
                     if (i != j) {
-                        due.refusesAfter(good + errors[i].substring(0, at[i]), codes[i], errors[i].substring(at[i]) + errors[j]);
+                        due.refusesAfter(good + errors[i].substring(0, at[i]), codes[i],
+                                errors[i].substring(at[i]) + errors[j]);
                     }
                 }
-                due.refusesAfter(good + errors[i].substring(0, at[i]), codes[i], errors[i].substring(at[i]) + HANDLERS + "?");
+                due.refusesAfter(good + errors[i].substring(0, at[i]), codes[i],
+                        errors[i].substring(at[i]) + HANDLERS + "?");
             }
             due.refusesAfter("lines;handler ", LineLeases.OUT_OF_RANGE, "10000 21;");
             due.refusesAfter("lines;handler ", LineLeases.OUT_OF_RANGE, "10000");
@@ -868,7 +927,8 @@ final class SetupEdgesTest {
         private static void rangeBeforeTheOthers() {
             due.sentence(SAME_OFFSET);
             due.refusesAfter(HANDLERS + "line 0 1 0 5 4 3 ", LineLeases.OUT_OF_RANGE, "6;");
-            due.refusesAfter("lines;handler 1 1;handler 1 1;handler 1 1;line 0 1 0 0 1 2 ", LineLeases.OUT_OF_RANGE, "3;");
+            due.refusesAfter("lines;handler 1 1;handler 1 1;handler 1 1;line 0 1 0 0 1 2 ", LineLeases.OUT_OF_RANGE,
+                    "3;");
         }
 
         private static void repeatedBeforeTooMany() {
@@ -896,8 +956,8 @@ final class SetupEdgesTest {
             due.accepts(HANDLERS + "line 0 1 0 0 1;line 0 1 0 0 1;line 0 1 0 1 0 2;");
         }
 
-        private static final String TOO_MANY = "TOO_MANY: a 7th handler, a 9th line or a 61st request, at the first letter of "
-                + "its statement; a 4th tenant of a line, at its first digit.";
+        private static final String TOO_MANY = "TOO_MANY: a 7th handler, a 9th line or a 61st request, at the first "
+                + "letter of its statement; a 4th tenant of a line, at its first digit.";
 
         private static void tooManyHandlers() {
             due.sentence(TOO_MANY);
