@@ -600,7 +600,11 @@ public final class LineLeases {
         }
     }
 
-    /** All data that a change changes: handlers, lines, requests, the rules' numbers, the bank and the time. */
+    /**
+     * All data that a change changes: handlers, lines, requests, the rules' numbers, the bank and the time.
+     * Indexes that it keeps (a request's line and holder, tenants) were tested before they were kept, and are tested
+     * once more before they are used: so each use shows by itself that the machine does not throw.
+     */
     private static final class World {
         final Handler[] handlers = new Handler[MOST_HANDLERS];
         int handlerCount;
@@ -779,6 +783,9 @@ public final class LineLeases {
 
         /** Raises a request that is still to come. */
         void openOrRefuse(Request request) {
+            if (!hasLine(request.line)) {
+                return;
+            }
             Line line = lines[request.line];
             if (raisedInWindow(request.line) + 1 > line.limit) {
                 request.state = REFUSED;
@@ -793,15 +800,18 @@ public final class LineLeases {
 
         /** Assigns an open request; its holder before, if any, is no tenant of its line. */
         private void assign(Request request) {
+            if (!hasLine(request.line)) {
+                return;
+            }
             Line line = lines[request.line];
             int best = -1;
             for (int place = 0; place < line.tenantCount; place++) {
                 int tenant = line.tenants[place];
-                if (best < 0 || handlers[tenant].held < handlers[best].held) {
+                if (hasHandler(tenant) && (best < 0 || handlers[tenant].held < handlers[best].held)) {
                     best = tenant;
                 }
             }
-            if (request.holder >= 0) {
+            if (hasHandler(request.holder)) {
                 handlers[request.holder].held--;
             }
             if (best >= 0) {
@@ -891,6 +901,9 @@ public final class LineLeases {
         }
 
         private void answer(Request request) {
+            if (!hasHandler(request.holder) || !hasLine(request.line)) {
+                return;
+            }
             Handler handler = handlers[request.holder];
             handler.held--;
             request.holder = -1;
@@ -902,6 +915,9 @@ public final class LineLeases {
         }
 
         private void chargeFine(Request request) {
+            if (!hasHandler(request.holder) || !hasLine(request.line)) {
+                return;
+            }
             Handler handler = handlers[request.holder];
             int due = fine.value(request.line, request.left, handler.held, time - request.progress);
             int paid = takeFrom(request.holder, due);
@@ -922,7 +938,7 @@ public final class LineLeases {
             }
             for (int place = 0; place < count; place++) {
                 int payer = payers[place];
-                if (line.placeOf(payer) >= 0) {
+                if (hasHandler(payer) && line.placeOf(payer) >= 0) {
                     int paid = takeFrom(payer, place < over ? share + 1 : share);
                     handlers[payer].rents += paid;
                     bank += paid;
